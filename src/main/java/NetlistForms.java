@@ -559,7 +559,7 @@ public final class NetlistForms {
             }
             for (int k = 0; k < linkCount; k++) {
                 Link link = links[k];
-                Net port = byName ? kind.portNamed(link.port) : kind.portAt(k);
+                Net port = byName ? kind.netAmong(kind.portCount, link.port) : kind.portAt(k);
                 if (port == null) {
                     return link.place;
                 }
@@ -593,17 +593,9 @@ public final class NetlistForms {
             this.place = place;
         }
 
-        Net netNamed(long asked) {
-            for (int k = 0; k < netCount; k++) {
-                if (nets[k].name == asked) {
-                    return nets[k];
-                }
-            }
-            return null;
-        }
-
-        Net portNamed(long asked) {
-            for (int k = 0; k < portCount; k++) {
+        /** The net of that name among the first of them: all, or the ports alone. */
+        Net netAmong(int many, long asked) {
+            for (int k = 0; k < many && k < netCount; k++) {
                 if (nets[k].name == asked) {
                     return nets[k];
                 }
@@ -625,7 +617,7 @@ public final class NetlistForms {
         }
 
         boolean canTakeNet(long asked) {
-            return netCount < MOST_NETS && netNamed(asked) == null;
+            return netCount < MOST_NETS && netAmong(netCount, asked) == null;
         }
 
         void addNet(Net net) {
@@ -826,6 +818,19 @@ public final class NetlistForms {
             current = null;
         }
 
+        /** In the long text a sign stands between the sides of an assign, in the short one none. */
+        void readAssign(boolean hasSign) {
+            words.refuseIf(current.assignCount >= MOST_ASSIGNS);
+            words.step();
+            Part target = readPart();
+            if (hasSign) {
+                words.takeSign('=');
+            }
+            Part source = readPart();
+            words.takeSign(';');
+            current.addAssign(target, source);
+        }
+
         Instance startInstance() {
             long of = words.name();
             words.step();
@@ -847,7 +852,7 @@ public final class NetlistForms {
         /** A net with, perhaps, one sign and a bit behind it, and another sign and a lower bit. */
         Part readNetPart(char before, char between) {
             int place = words.place();
-            Net net = current.netNamed(words.name());
+            Net net = current.netAmong(current.netCount, words.name());
             words.refuseIf(net == null || net.sort == Net.UNTOLD);
             words.step();
             if (!words.skips(before)) {
@@ -894,7 +899,7 @@ public final class NetlistForms {
             } else if (words.isText("wire")) {
                 readNets(Net.WIRE);
             } else if (words.isText("assign")) {
-                readAssign();
+                readAssign(true);
             } else if (words.isText("end")) {
                 words.refuseIf(current.hasUntoldPort());
                 words.step();
@@ -954,21 +959,11 @@ public final class NetlistForms {
         }
 
         private void tellPort(int sort, int width) {
-            Net port = current.netNamed(words.name());
+            Net port = current.netAmong(current.netCount, words.name());
             words.refuseIf(port == null || port.sort != Net.UNTOLD);
             port.sort = sort;
             port.width = width;
             words.step();
-        }
-
-        private void readAssign() {
-            words.refuseIf(current.assignCount >= MOST_ASSIGNS);
-            words.step();
-            Part target = readPart();
-            words.takeSign('=');
-            Part source = readPart();
-            words.takeSign(';');
-            current.addAssign(target, source);
         }
 
         private void readInstance() {
@@ -1033,7 +1028,7 @@ public final class NetlistForms {
             } else if (words.isText("w")) {
                 readNet(Net.WIRE);
             } else if (words.isText("a")) {
-                readAssign();
+                readAssign(false);
             } else if (words.isText("u")) {
                 readInstance();
             } else {
@@ -1050,15 +1045,6 @@ public final class NetlistForms {
             words.step();
             current.addNet(new Net(name, sort, words.takeNumber(1, MOST_WIDTH)));
             words.takeSign(';');
-        }
-
-        private void readAssign() {
-            words.refuseIf(current.assignCount >= MOST_ASSIGNS);
-            words.step();
-            Part target = readPart();
-            Part source = readPart();
-            words.takeSign(';');
-            current.addAssign(target, source);
         }
 
         private void readInstance() {

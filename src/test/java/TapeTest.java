@@ -72,10 +72,13 @@ public final class TapeTest {
         units(forms, 0, true, 1000);
         Check.same("read of 1000", forms.read(0), -1 - 999);
         units(forms, 0x20202020, true, 4);
-        Check.put(forms, " ".repeat(992) + "x//y");
-        Check.same("read of 1000, ended by a comment", forms.read(1), -1 - 996);
-        Check.same("read of 1000 blanks", Check.read(forms, 0, " ".repeat(1000)), 0);
-        Check.same("read of 1000 signs", Check.read(forms, 0, ";".repeat(1000)), -1);
+        // Each on an object of its own: so long a text takes half the calls that one object has.
+        Check.good(0, 0, " ".repeat(1000));
+        Check.good(1, 1, " ".repeat(994) + "m x;e;");
+        Check.fault(0, "@" + ";".repeat(1000));
+        Check.fault(1, " ".repeat(996) + "@x//y");
+        Check.fault(1, "m x;" + " ".repeat(996) + "@");
+        Check.fault(1, "m x;e;" + " ".repeat(993) + "@/");
     }
 
     private static void counts() {
@@ -105,6 +108,8 @@ public final class TapeTest {
         Check.same("count(1) behind a faulty read", forms.count(1), 0);
         Check.same("count(0) behind a faulty read", forms.count(0), 2);
         Check.same("modules stay", Check.name(forms, 0, 1, 0), "z");
+        Check.same("a comment at the end", Check.read(forms, 1, "m x;e;//"), 1);
+        Check.same("nothing of it is left", Check.read(forms, 1, "m x;e;/"), -1 - 6);
         Check.same("read of nothing", forms.read(0), 0);
         Check.same("count(0) behind read of nothing", forms.count(0), 0);
     }

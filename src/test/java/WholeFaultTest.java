@@ -72,6 +72,7 @@ public final class WholeFaultTest {
 
     private static void rings() {
         Check.fault(S, "m @x;u x y;e;");
+        Check.fault(S, "m @x;u y i;e;m y;u x i;e;");
         Check.fault(S, "m a;e;m @x;u y i;e;m y;u x i;e;");
         Check.fault(S, "m a;u b i;e;m b;u c i;e;m @c;u d i;e;m d;u box i;u c j;e;");
         Check.fault(S, "m a;u b i;u c j;e;m b;u c i;e;m c;e;m @d;u e i;e;m e;u f i;e;m f;u d i;u a j;e;");
