@@ -1,4 +1,5 @@
 import java.util.function.IntSupplier;
+import java.util.function.IntUnaryOperator;
 
 /** What the tests have in common: answers against what is due, and objects with a text on the tape. */
 final class Check {
@@ -6,12 +7,32 @@ final class Check {
     static final int SHORT = 1;
     /** Stands in a text for the place of the fault; no text of the tests has it as a word. */
     static final char MARK = '@';
-    private static final int MOST_CALLS = 512;
+    /** Stands in the pattern of a row for the letter that tells its names apart. */
+    static final char LETTER = '#';
+    static final int MOST_CALLS = 512;
 
     private static int right = 0;
     private static int wrong = 0;
+    private static String named = "";
+    private static int sentences = 0;
+    private static int answersBefore = 0;
 
     private Check() {
+    }
+
+    /** Names the sentence of the document that the answers behind it are held to. */
+    static void sentence(String where, String words) {
+        refuseEmptySentence();
+        named = where + ", \"" + words + "\": ";
+        sentences++;
+        answersBefore = right + wrong;
+    }
+
+    /** A sentence without an answer behind it would pass whatever the program does. */
+    private static void refuseEmptySentence() {
+        if (sentences > 0 && answersBefore == right + wrong) {
+            throw new IllegalStateException(named + "nothing is asked");
+        }
     }
 
     static void same(String what, Object got, Object due) {
@@ -19,7 +40,7 @@ final class Check {
             right++;
         } else {
             wrong++;
-            System.out.println(what + " answered " + got + ", due is " + due);
+            System.out.println(named + what + " answered " + got + ", due is " + due);
         }
     }
 
@@ -33,8 +54,32 @@ final class Check {
         same(what, got, "IndexOutOfBoundsException");
     }
 
+    /** The numbers 0 to many - 1 are taken, those on either side are refused. */
+    static void range(String what, int many, IntUnaryOperator call) {
+        for (int k : new int[] {0, many - 1}) {
+            if (k >= 0 && k < many) {
+                taken(what + " " + k, () -> call.applyAsInt(k));
+            }
+        }
+        for (int k : new int[] {-1, many, many + 1, Integer.MIN_VALUE, Integer.MAX_VALUE}) {
+            refused(what + " " + k, () -> call.applyAsInt(k));
+        }
+    }
+
+    static void taken(String what, IntSupplier call) {
+        String got = "an answer";
+        try {
+            call.getAsInt();
+        } catch (IndexOutOfBoundsException notDue) {
+            got = "IndexOutOfBoundsException";
+        }
+        same(what, got, "an answer");
+    }
+
     static void end(String test) {
-        System.out.println(test + ": " + right + " answers right, " + wrong + " wrong");
+        refuseEmptySentence();
+        System.out.println(test + ": " + (sentences > 0 ? sentences + " sentences, " : "")
+            + right + " answers right, " + wrong + " wrong");
         if (wrong > 0 || right == 0) {
             System.exit(1);
         }
@@ -108,5 +153,20 @@ final class Check {
             }
         }
         throw new IllegalStateException("printing does not end");
+    }
+
+    /** The pattern so many times, each with a letter of its own in place of the #. */
+    static String rows(int many, String pattern) {
+        StringBuilder all = new StringBuilder();
+        for (int k = 0; k < many; k++) {
+            all.append(pattern.replace(LETTER, (char) ('a' + k)));
+        }
+        return all.toString();
+    }
+
+    /** As rows, with a comma between. */
+    static String list(int many, String pattern) {
+        String all = rows(many, pattern + ",");
+        return all.isEmpty() ? all : all.substring(0, all.length() - 1);
     }
 }
