@@ -255,6 +255,9 @@ public final class FaultEdgesTest {
             Check.fault(form, begun + "@");
             Check.fault(form, begun + " \n@");
             Check.fault(form, begun + " //end e;@");
+            // Nothing of a longer text that was read before stands in for what is missing.
+            NetlistForms forms = Check.of(form, text);
+            Check.same("read of " + begun + " behind the whole text", Check.read(forms, form, begun), -1 - place);
         }
     }
 }

@@ -12,6 +12,7 @@ public final class WordEdgesTest {
         lengthOfNamesInLongText();
         noKeyword();
         numbersAsLongAsCanBe();
+        numbersAreNoSigns();
         lengthOfNumbers();
         zerosInFront();
         oneLongWord();
@@ -130,6 +131,29 @@ public final class WordEdgesTest {
         Check.fault(S, "m x;i a 8@_;e;");
         Check.fault(L, "module x();wire [@77:0] a;end");
         Check.fault(L, "module x();wire [7:@01] a;end");
+    }
+
+    /** A number, or a row that is too long, has at times the code of the sign that is due. */
+    private static void numbersAreNoSigns() {
+        Check.sentence("Terms", "NUMBERS, rows of digits as long as can be (2 at most;");
+        String longText = "module x ( a , b ) ; input [ 1 : 0 ] a ; output b ; "
+            + "assign a [ 1 : 0 ] = 2 ' b01 ; y z ( a [ 1 ] , - ) ; y t ( . p ( a ) , . q ( ) ) ; end";
+        String shortText = "m x ; i a 2 ; a a . 1 . 0 ' b01 ; u y z a . 1 - ' b0 ; e ;";
+        Check.good(L, 1, longText);
+        Check.good(S, 1, shortText);
+        for (char sign : "(),;[:]='-.".toCharArray()) {
+            codeForSign(L, longText, sign);
+            codeForSign(S, shortText, sign);
+        }
+    }
+
+    private static void codeForSign(int form, String text, char sign) {
+        for (int place = text.indexOf(sign); place >= 0; place = text.indexOf(sign, place + 1)) {
+            String begun = text.substring(0, place);
+            String rest = text.substring(place + 1);
+            Check.fault(form, begun + "@" + (int) sign + rest);
+            Check.fault(form, begun + "@" + (int) sign + "9" + rest);
+        }
     }
 
     private static void lengthOfNumbers() {
